@@ -392,9 +392,10 @@ public final class TwoWays {
     }
 
     private int firstByRule(int rule) {
-        OneWay zero = oneWayFor(0);
-        OneWay one = oneWayFor(1);
-        return zero.isTooMany() || one.isTooMany() ? FULL : meeting.firstWord(zero, one, rule);
+        oneWayOfZero.make(machines.at(0));
+        oneWayOfOne.make(machines.at(1));
+        boolean tooMany = oneWayOfZero.isTooMany() || oneWayOfOne.isTooMany();
+        return tooMany ? FULL : meeting.firstWord(oneWayOfZero, oneWayOfOne, rule);
     }
 
     private static int tellWhetherNone(int word) {

@@ -9,10 +9,21 @@ public final class PromisesTest {
     /** Takes every word. */
     private static final String ALL = "q1;m0(0r;m0a0r;m0b0r;m0)0r;";
     /** Two machines of which the first word that both take has 23 letters. */
-    private static final String FAR_ZERO =
-            "q4;m0a2r;m0b0r;m0(2r;m0)2r;m1a3r;m1b1r;m1(0l;m1)0l;m2a1r;m2b2r;m2(1l;m2)1l;m3a0r;m3b3r;m3(1r;";
-    private static final String FAR_ONE =
-            "q4;m0a2l;m0b0r;m0(0r;m1a2r;m1b3l;m1(3l;m1)2l;m2a0r;m2b1l;m2(1l;m2)2r;m3a1r;m3b3r;m3(2r;m3)0l;";
+    private static final String[] FAR_BOTH = {
+        "q4;m0a2r;m0b0r;m0(2r;m0)2r;m1a3r;m1b1r;m1(0l;m1)0l;m2a1r;m2b2r;m2(1l;m2)1l;m3a0r;m3b3r;m3(1r;",
+        "q4;m0a2l;m0b0r;m0(0r;m1a2r;m1b3l;m1(3l;m1)2l;m2a0r;m2b1l;m2(1l;m2)2r;m3a1r;m3b3r;m3(2r;m3)0l;"};
+    /** Two machines of which the first word that the first alone takes has 24 letters. */
+    private static final String[] FAR_ALONE = {
+        "q4;m0a1r;m0b1r;m0(3r;m1a2l;m1b2r;m1)2l;m2a0l;m2b3r;m2(3r;m2)1l;m3b0r;m3(2l;m3)3r;",
+        "q4;m0a3r;m0b2r;m0(2r;m0)0r;m1a0r;m1b1l;m1(3r;m1)3l;m2a0r;m2b3r;m2(1l;m2)3l;m3a1l;m3b0r;m3(3r;m3)0r;"};
+    /** Pairs of which the first word that the first alone takes is too long to be told. */
+    private static final String[][] TOO_FAR = {
+        {"q4;m0a1r;m0b2l;m0(3r;m0)2l;m1a2r;m1b2r;m1(2r;m1)3r;m2a3r;m2)2l;m3a0r;m3b1l;m3(3l;m3)2l;",
+            "q4;m0a3r;m0b1l;m0(0r;m0)3l;m1a1l;m1b0l;m1(2r;m2a0r;m2b2r;m2(3l;m2)3r;m3a2r;m3b3r;m3(1r;m3)3r;"},
+        {"q4;m0a1r;m0b1r;m0(3r;m0)1r;m1a0l;m1b2r;m1(2l;m1)2l;m2b3r;m2)1l;m3b0r;m3(3r;m3)0l;",
+            "q4;m0a3r;m0b2r;m0(2r;m0)2r;m1a0l;m1b1l;m1(3r;m1)1r;m2a0r;m2b3r;m2(1l;m2)1r;m3a1l;m3b0r;m3)0l;"},
+        {"q4;m0b1r;m0(1r;m1a0l;m1b3r;m1(3l;m1)0l;m2b0r;m2(0r;m3a2r;m3b2r;m3(1r;m3)2r;",
+            "q4;m0a0r;m0b3r;m0(0r;m0)3r;m1a2l;m1b0r;m1)1r;m2a0r;m2b2l;m2(1r;m2)1r;m3a3r;m3b1r;m3(1r;m3)0r;"}};
 
     private final Check check = new Check("PromisesTest");
     private TwoWays x = new TwoWays();
@@ -648,11 +659,26 @@ public final class PromisesTest {
         for (int bad : new int[] {4, -1, LOW, HIGH}) {
             due("23 first(" + bad + ")", x.first(bad), UNKNOWN);
         }
-        tell(0, FAR_ZERO);
-        tell(1, FAR_ONE);
-        due("23 a long word", x.first(0), 15845148);
+        farWords();
+    }
+
+    private void farWords() {
+        tell(0, FAR_BOTH[0]);
+        tell(1, FAR_BOTH[1]);
+        due("23 a word of 23 letters", x.first(0), 15845148);
         x.word(15845148);
-        due("23 is taken", x.run(0, 0) + x.run(1, 0), 2);
+        due("23 both take it", x.run(0, 0) + x.run(1, 0), 2);
+        tell(0, FAR_ALONE[0]);
+        tell(1, FAR_ALONE[1]);
+        due("23 a word of 24 letters", x.first(2), 33538043);
+        due("23 has 24 letters", x.word(33538043), 24);
+        due("23 the first alone takes it", x.run(0, 0) - x.run(1, 0), 1);
+        for (String[] pair : TOO_FAR) {
+            tell(0, pair[0]);
+            tell(1, pair[1]);
+            due("23 a longer word", x.first(2), 0);
+            due("23 not the same words", x.told(4), 0);
+        }
     }
 
     private void promise24() {
