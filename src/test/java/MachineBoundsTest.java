@@ -254,6 +254,10 @@ public final class MachineBoundsTest extends Bench {
                 dueFault(begun + "  ", 1, length + 2);
             }
         }
+        // What stood in a longer text ahead of it must not be read.
+        tell(0, " ".repeat(240));
+        due("behind a longer text", tell(0, "q"), -11);
+        due("behind a longer text", x.fault(), 1);
     }
 
     private void leastFault() {

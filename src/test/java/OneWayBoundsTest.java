@@ -13,6 +13,11 @@ public final class OneWayBoundsTest extends Bench {
         "q4;m0a3r;m0b0l;m0(0r;m0)1l;m1a0r;m1b1l;m1(3l;m1)0l;m2a1r;m2b1r;m2(1r;m2)3l;m3a2r;m3b1l;m3(1l;m3)2r;",
         "q4;m0a1r;m0b3r;m0(3r;m0)0l;m1a3r;m1b2l;m1(3l;m1)1l;m2a2l;m2b3l;m2(0r;m2)0l;m3a0r;m3b1r;m3(1l;m3)0r;"};
     private static final String TOO_FAR_WORD = "aaaaaaaaaabaaaaaaaaaaabaa";
+    /** The same with 27 letters; the letters behind the 25th are b, which must not be taken for a new word. */
+    private static final String[] FARTHEST = {
+        "q4;m0b3r;m0a3r;m0(3r;m0)3r;m1b2r;m1a1l;m1(1r;m1)0l;m2b0r;m2a0l;m2(1l;m3b1r;m3a0l;m3(0l;m3)0l;",
+        "q4;m0b2r;m0a1r;m0(2r;m0)2l;m1b0r;m1a2r;m1(3l;m1)1r;m2b1r;m2a3l;m2(2l;m2)2r;m3b3l;m3a1r;m3(1r;m3)0l;"};
+    private static final String FARTHEST_WORD = "bbbbbbbbbbbabbbbbbbbbbbabbb";
 
     private OneWayBoundsTest() {
         super("OneWayBoundsTest");
@@ -59,6 +64,10 @@ public final class OneWayBoundsTest extends Bench {
         tell(0, "q4;m0(0r;m0a1l;m1(2r;m2a3l;m3(3r;m3a0r;");
         due("the last state at a goes off", x.oneWay(0, x.oneWay(0, 0, 0), 3), 0);
         due("stuck at b", x.oneWay(0, x.oneWay(0, 0, 1), 3), NONE);
+        tell(0, "q4;m0(0r;m0a1l;m1(1r;m1a2l;m2(2r;m2a3l;m3(3r;m3a0r;");
+        due("in every state at a", x.oneWay(0, x.oneWay(0, 0, 0), 3), 0);
+        x.move(0, 3, 0, 3, 0);
+        due("for ever then", x.oneWay(0, x.oneWay(0, 0, 0), 3), NONE);
     }
 
     private void backNever() {
@@ -233,13 +242,18 @@ public final class OneWayBoundsTest extends Bench {
         due("24 letters", x.first(2), 33538043);
         due("24 letters", x.word(33538043), 24);
         due("the first alone takes it", x.run(0, 0) - x.run(1, 0), 1);
-        tell(0, TOO_FAR[0]);
-        tell(1, TOO_FAR[1]);
-        due("25 letters", x.first(2), 0);
+        dueTooFar(TOO_FAR, TOO_FAR_WORD, 25);
+        dueTooFar(FARTHEST, FARTHEST_WORD, 27);
+    }
+
+    private void dueTooFar(String[] pair, String word, int letters) {
+        tell(0, pair[0]);
+        tell(1, pair[1]);
+        due(letters + " letters", x.first(2), 0);
         due("they do not take the same words", x.told(4), 0);
-        due("it has 25 letters", TOO_FAR_WORD.length(), 25);
-        due("the first takes it", Oracle.takes((Oracle.Mach) Oracle.read(TOO_FAR[0])[0], TOO_FAR_WORD) ? 1 : 0, 1);
-        due("the other does not", Oracle.takes((Oracle.Mach) Oracle.read(TOO_FAR[1])[0], TOO_FAR_WORD) ? 1 : 0, 0);
+        due("letters of " + word, word.length(), letters);
+        due("the first takes it", Oracle.takes((Oracle.Mach) Oracle.read(pair[0])[0], word) ? 1 : 0, 1);
+        due("the other does not", Oracle.takes((Oracle.Mach) Oracle.read(pair[1])[0], word) ? 1 : 0, 0);
     }
 
     private void noWord() {

@@ -444,6 +444,13 @@ public final class WordBoundsTest extends Bench {
         due("unlike from the right alone", x.alike(1, 0, 1, 0, 2), 0);
         due("from the left alike", x.table(1, 0, 1, 0, 0) - x.table(1, 0, 2, 0, 0), 0);
         due("from the left alike", x.table(1, 0, 1, 1, 0) - x.table(1, 0, 2, 1, 0), 0);
+        // b and ab have the same last letter, and who comes to it from the right goes off at once.
+        tell(1, "q1;m0a0l;m0b0r;");
+        setWord("bab");
+        due("unlike from the left alone", x.alike(1, 0, 1, 1, 3), 0);
+        due("from the right alike", x.table(1, 0, 1, 0, 1) - x.table(1, 1, 3, 0, 1), 0);
+        tell(1, "q2;m0a0r;m0b0l;m1a1r;m1b1r;");
+        due("unlike in state 0 alone", x.alike(1, 0, 1, 1, 2), 0);
         sentence("Promise 19", "UNKNOWN, OUTSIDE.");
         setWord("aab");
         for (int[] piece : NO_PIECES) {
