@@ -798,8 +798,8 @@ public final class TwoWays {
             place = 0;
             ending = GOING;
             arrive(word);
-            // One turn more than steps, as the last one may only find that there is no move.
-            for (int turn = 0; turn <= STEP_LIMIT && ending == GOING; turn++) {
+            // Each turn begins in a state at a place where none began yet, so there are no more turns than these.
+            for (int turn = 0; turn < STEP_LIMIT && ending == GOING; turn++) {
                 step(machine, word);
             }
         }
