@@ -553,7 +553,10 @@ public final class TwoWays {
         }
 
         void remember(Both now) {
-            keepAt(free, now);
+            Both slot = slotAt(free);
+            if (slot != null) {
+                slot.become(now);
+            }
             free = (free + 1) % UNDO_LIMIT;
             size = Math.min(UNDO_LIMIT, size + 1);
         }
@@ -564,7 +567,7 @@ public final class TwoWays {
             }
             size--;
             free = (free + UNDO_LIMIT - 1) % UNDO_LIMIT;
-            Both latest = ring[free];
+            Both latest = slotAt(free);
             if (latest != null) {
                 now.become(latest);
             }
@@ -575,11 +578,8 @@ public final class TwoWays {
             size = 0;
         }
 
-        private void keepAt(int i, Both now) {
-            Both slot = i >= 0 && i < UNDO_LIMIT ? ring[i] : null;
-            if (slot != null) {
-                slot.become(now);
-            }
+        private Both slotAt(int i) {
+            return i >= 0 && i < UNDO_LIMIT ? ring[i] : null;
         }
     }
 

@@ -1,4 +1,6 @@
 import java.io.IOException;
+import java.io.PrintWriter;
+import java.io.StringWriter;
 import java.lang.management.ManagementFactory;
 import java.lang.reflect.Constructor;
 import java.lang.reflect.Field;
@@ -6,10 +8,16 @@ import java.lang.reflect.Method;
 import java.lang.reflect.Modifier;
 import java.nio.file.Files;
 import java.nio.file.Path;
+import java.util.ArrayDeque;
+import java.util.ArrayList;
+import java.util.List;
+import java.util.Map;
 import java.util.Set;
+import java.util.TreeMap;
 import java.util.TreeSet;
 import java.util.regex.Matcher;
 import java.util.regex.Pattern;
+import java.util.spi.ToolProvider;
 
 /** The public face, the rules of LANGUAGE.md that a program can look at, and how much a run of calls makes. */
 public final class FaceTest {
@@ -28,6 +36,7 @@ public final class FaceTest {
         FaceTest t = new FaceTest();
         t.publicFace();
         t.classesInside();
+        t.depthOfCalls();
         t.sourceRules();
         t.methodLengths();
         t.callsMakeNothing();
@@ -69,22 +78,86 @@ public final class FaceTest {
     private void classesInside() {
         Class<?>[] inside = TwoWays.class.getDeclaredClasses();
         check.holds("there are at most twelve classes", inside.length < 12);
-        Set<String> publicNames = new TreeSet<>();
-        FACE.forEach(name -> publicNames.add(name.split(" ")[0]));
         for (Class<?> c : inside) {
             check.holds(c + " is static and not public", Modifier.isStatic(c.getModifiers())
                     && !Modifier.isPublic(c.getModifiers()) && !Modifier.isProtected(c.getModifiers()));
-            int fields = 0;
-            for (Field f : c.getDeclaredFields()) {
-                check.holds(f + " is no static state", !Modifier.isStatic(f.getModifiers()) || Modifier.isFinal(f.getModifiers()));
-                fields += Modifier.isStatic(f.getModifiers()) ? 0 : 1;
-            }
-            check.holds(c + " has at most twenty fields", fields <= 20);
-            for (Method m : c.getDeclaredMethods()) {
-                check.holds(m + " bears no name of the face", !publicNames.contains(m.getName()));
-                check.holds(m + " takes at most seven", m.getParameterCount() <= 7);
+            membersOf(c);
+        }
+        membersOf(TwoWays.class);
+    }
+
+    private void membersOf(Class<?> c) {
+        Set<String> publicNames = new TreeSet<>();
+        FACE.forEach(name -> publicNames.add(name.split(" ")[0]));
+        int fields = 0;
+        for (Field f : c.getDeclaredFields()) {
+            check.holds(f + " is no static state", !Modifier.isStatic(f.getModifiers())
+                    || Modifier.isFinal(f.getModifiers()) && f.getType() == int.class);
+            fields += Modifier.isStatic(f.getModifiers()) ? 0 : 1;
+        }
+        check.holds(c + " has at most twenty fields", fields <= 20);
+        for (Method m : c.getDeclaredMethods()) {
+            check.holds(m + " bears no name of the face",
+                    c == TwoWays.class && Modifier.isPublic(m.getModifiers()) || !publicNames.contains(m.getName()));
+            check.holds(m + " takes at most seven", m.getParameterCount() <= 7);
+        }
+    }
+
+    // ---- how deep the calls go
+
+    /** No method comes back to itself, and a call of the face stands at most eight methods deep. */
+    private void depthOfCalls() {
+        Map<String, Set<String>> calls = callsInside();
+        check.holds("calls were found", calls.size() > FACE.size() && calls.get("TwoWays.machine").size() > 3);
+        for (String method : calls.keySet()) {
+            int depth = depthOf(method, calls, new ArrayDeque<>());
+            check.holds(method + " goes at most eight deep, not " + depth, depth <= 8);
+        }
+    }
+
+    private int depthOf(String method, Map<String, Set<String>> calls, ArrayDeque<String> open) {
+        if (open.contains(method)) {
+            check.holds(method + " does not come back to itself", false);
+            return 0;
+        }
+        open.push(method);
+        int deepest = 0;
+        for (String called : calls.getOrDefault(method, Set.of())) {
+            deepest = Math.max(deepest, depthOf(called, calls, open));
+        }
+        open.pop();
+        return deepest + 1;
+    }
+
+    /** For each method of the class and of those inside it, by class and name, the ones that it calls. */
+    private static Map<String, Set<String>> callsInside() {
+        Map<String, Set<String>> calls = new TreeMap<>();
+        Pattern head = Pattern.compile("^  \\S.*?([\\w$]+)\\(.*\\);$");
+        Pattern call = Pattern.compile("// Method (?:(TwoWays[\\w$]*)\\.)?\"?([\\w<>]+)\"?:\\(");
+        List<Class<?>> classes = new ArrayList<>(List.of(TwoWays.class.getDeclaredClasses()));
+        classes.add(TwoWays.class);
+        for (Class<?> c : classes) {
+            Set<String> now = new TreeSet<>();
+            for (String line : byteCode(c.getName()).split("\\R")) {
+                Matcher begun = head.matcher(line);
+                Matcher called = call.matcher(line);
+                if (begun.find()) {
+                    String name = begun.group(1).equals(c.getName()) ? "<init>" : begun.group(1);
+                    now = calls.computeIfAbsent(c.getName() + "." + name, n -> new TreeSet<>());
+                } else if (called.find()) {
+                    now.add((called.group(1) == null ? c.getName() : called.group(1)) + "." + called.group(2));
+                }
             }
         }
+        return calls;
+    }
+
+    private static String byteCode(String name) {
+        StringWriter told = new StringWriter();
+        PrintWriter out = new PrintWriter(told);
+        ToolProvider.findFirst("javap").orElseThrow()
+                .run(out, out, "-c", "-p", "-cp", System.getProperty("java.class.path"), name);
+        return told.toString();
     }
 
     /** The source without comments and without what stands in quotes. */
